@@ -418,12 +418,12 @@ public final class MouldThatComesOff {
     }
 
     public int best() {
-        int found = 0;
-        int least = Integer.MAX_VALUE;
+        int found = NONE;
+        int least = 0;
         for (int axis = 0; axis < AXES; axis++) {
             for (int height = 1; height < now.block.n; height++) {
                 int count = countCut(axis, height);
-                if (count < least) {
+                if (found == NONE || count < least) {
                     least = count;
                     found = 10 * axis + height;
                 }
@@ -751,6 +751,7 @@ public final class MouldThatComesOff {
         long all;
         private final int[] strides = new int[AXES];
         private final long[] layers = new long[AXES * MOST_SIZE];
+        private final long[] ends = new long[WAYS];
 
         Block() {
             become(FIRST_SIZE);
@@ -775,6 +776,10 @@ public final class MouldThatComesOff {
                         bit <<= 1;
                     }
                 }
+            }
+            for (int axis = 0; axis < AXES; axis++) {
+                ends[2 * axis] = layer(axis, size - 1);
+                ends[2 * axis + 1] = layer(axis, 0);
             }
         }
 
@@ -812,11 +817,11 @@ public final class MouldThatComesOff {
         }
 
         long endTowards(int way) {
-            return layer(way >> 1, (way & 1) == 0 ? n - 1 : 0);
+            return ends[way];
         }
 
         long shifted(long set, int way) {
-            long staying = set & ~endTowards(way);
+            long staying = set & ~ends[way];
             int stride = strides[way >> 1];
             return (way & 1) == 0 ? staying << stride : staying >>> stride;
         }
@@ -840,8 +845,16 @@ public final class MouldThatComesOff {
             return found;
         }
 
+        /** The row along an axis that a CUBE lies in: what its layers across the two other axes share. */
         long rowThrough(long cube, int axis) {
-            return cube | behind(cube, 2 * axis) | behind(cube, 2 * axis + 1);
+            long found = all;
+            for (int k = 0; k < AXES * MOST_SIZE; k++) {
+                boolean across = k < MOST_SIZE * axis || k >= MOST_SIZE * (axis + 1);
+                if (across && (layers[k] & cube) != 0L) {
+                    found &= layers[k];
+                }
+            }
+            return found;
         }
 
         long partAround(long set, long seed) {
@@ -966,6 +979,12 @@ public final class MouldThatComesOff {
             if (pieces < MOST_PIECES) {
                 sets[pieces] = set;
                 pieces++;
+            }
+        }
+
+        void fillLast(long set) {
+            if (pieces > 0) {
+                sets[pieces - 1] |= set;
             }
         }
 
@@ -1136,14 +1155,14 @@ public final class MouldThatComesOff {
 
         int leastSeamWays(Mould mould) {
             int found = NONE;
-            int least = Integer.MAX_VALUE;
+            int least = 0;
             for (int ways = 0; ways < WAY_SETS; ways++) {
                 if (!suffices(ways)) {
                     continue;
                 }
                 share(ways);
                 int length = seam(mould);
-                if (length < least) {
+                if (found == NONE || length < least) {
                     least = length;
                     found = ways;
                 }
@@ -1403,6 +1422,10 @@ public final class MouldThatComesOff {
 
     /** Reads STATEMENTS; at a FAULT the tape stays at the TOKEN that can't stand there. */
     private static final class Reader {
+        private static final int BOX = 0;
+        private static final int CUT = 1;
+        private static final int FILL = 2;
+
         /** How many STATEMENTS there are; NONE: a FAULT. */
         static int readAll(Tape tape, Mould mould) {
             tape.rewind();
@@ -1425,14 +1448,17 @@ public final class MouldThatComesOff {
             if (tape.isWord("size")) {
                 return readSize(tape, mould);
             }
-            if (tape.isWord("box") || tape.isWord("cut")) {
-                return readBox(tape, mould, tape.isWord("box"));
+            if (tape.isWord("box")) {
+                return readBox(tape, mould, BOX);
+            }
+            if (tape.isWord("cut")) {
+                return readBox(tape, mould, CUT);
             }
             if (tape.isWord("piece")) {
                 return readPiece(tape, mould);
             }
             if (tape.isWord("fill")) {
-                return readFill(tape, mould);
+                return mould.pieces > 0 && readBox(tape, mould, FILL);
             }
             if (tape.isWord("shows")) {
                 return readShows(tape, mould);
@@ -1452,17 +1478,6 @@ public final class MouldThatComesOff {
             return value;
         }
 
-        /** The CUBES of A to B; none at a FAULT, as every box has some. */
-        private static long boxSet(Tape tape, Block block) {
-            int a = numberWithin(tape, 0, block.count - 1);
-            if (a == NONE || !tape.isWord("to")) {
-                return 0L;
-            }
-            tape.advance();
-            int b = numberWithin(tape, 0, block.count - 1);
-            return b == NONE ? 0L : block.boxOf(a, b);
-        }
-
         private static boolean readSize(Tape tape, Mould mould) {
             tape.advance();
             int n = numberWithin(tape, LEAST_SIZE, MOST_SIZE);
@@ -1472,11 +1487,31 @@ public final class MouldThatComesOff {
             return n != NONE;
         }
 
-        private static boolean readBox(Tape tape, Mould mould, boolean isSolid) {
+        private static boolean readBox(Tape tape, Mould mould, int use) {
+            int last = mould.block.count - 1;
             tape.advance();
-            long set = boxSet(tape, mould.block);
-            mould.figure = isSolid ? mould.figure | set : mould.figure & ~set;
-            return set != 0L;
+            int a = numberWithin(tape, 0, last);
+            if (a == NONE || !tape.isWord("to")) {
+                return false;
+            }
+            tape.advance();
+            int b = numberWithin(tape, 0, last);
+            if (b == NONE) {
+                return false;
+            }
+            long set = mould.block.boxOf(a, b);
+            switch (use) {
+                case BOX:
+                    mould.figure |= set;
+                    break;
+                case CUT:
+                    mould.figure &= ~set;
+                    break;
+                default:
+                    mould.fillLast(set);
+                    break;
+            }
+            return true;
         }
 
         private static boolean readPiece(Tape tape, Mould mould) {
@@ -1486,17 +1521,6 @@ public final class MouldThatComesOff {
             mould.addPiece(0L);
             tape.advance();
             return true;
-        }
-
-        private static boolean readFill(Tape tape, Mould mould) {
-            int last = mould.pieces - 1;
-            if (last < 0) {
-                return false;
-            }
-            tape.advance();
-            long set = boxSet(tape, mould.block);
-            mould.sets[last] |= set;
-            return set != 0L;
         }
 
         private static boolean readShows(Tape tape, Mould mould) {
