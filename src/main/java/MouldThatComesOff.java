@@ -894,11 +894,11 @@ public final class MouldThatComesOff {
             int least = 0;
             for (int cube = 0; cube < count; cube++) {
                 long bit = 1L << cube;
-                if ((layer(axis, 0) & bit) == 0L) {
+                if ((set & bit) == 0L) {
                     continue;
                 }
                 int inRow = Long.bitCount(set & rowThrough(bit, axis));
-                if (inRow > 0 && (least == 0 || inRow < least)) {
+                if (least == 0 || inRow < least) {
                     least = inRow;
                 }
             }

@@ -242,6 +242,9 @@ public final class PromisesTest {
         for (int s : NOT_SHELVES) due("no shelf", x.element(s, 0), 0);
         x.row(1, 2, 2);
         due("beyond a shorter row", x.element(1, 4), 0);
+        x.row(1, 3, 40);
+        due("behind the longest row", x.element(1, 40), 0);
+        due("far behind it", x.element(1, Integer.MAX_VALUE), 0);
         refusals(x, 0, 0, 0, 0, 0);
     }
 
