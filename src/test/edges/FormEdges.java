@@ -210,7 +210,8 @@ final class FormEdges extends Edges {
             for (int n = 2; n <= 4; n++) for (int axis = 0; axis < 3; axis++) {
                 due("all", sized(n).tunnels(axis), n * n);
                 due("none", formed(n, -1).tunnels(axis), 0);
-                due("one less", formed(n, bits(n * n * n - 1)).tunnels(axis), n * n - 1);
+                for (int c = 0; c < n * n * n; c++) due("one less", formed(n, bits(c)).tunnels(axis), n * n - 1);
+                due("a layer across, below", formed(n, layer(n, axis, 0)).tunnels(axis), 0);
                 due("a layer across", formed(n, layer(n, axis, n - 1)).tunnels(axis), 0);
                 due("a layer along", formed(n, layer(n, (axis + 1) % 3, 0)).tunnels(axis), n * n - n);
             }
@@ -224,6 +225,8 @@ final class FormEdges extends Edges {
             due("the middle of three", formed(3, bits(12, 13, 14)).needed(), bits(13));
             due("a ring", formed(3, 253440).needed(), 0);
             due("all", formed(4, -1).needed(), 0);
+            due("the first", formed(3, bits(0, 1, 3)).needed(), bits(0));
+            due("an empty one between two is none", formed(3, bits(0, 2)).needed(), 0);
             due("of two parts", formed(4, bits(0, 1, 2, 61, 62, 63)).needed(), bits(1, 62));
             due("a chain", formed(3, bits(2, 1, 4, 3)).needed(), bits(1, 4));
             due("a fork whose arms are three", formed(3, bits(10, 12, 13, 14)).needed(), bits(13));
@@ -247,7 +250,7 @@ final class FormEdges extends Edges {
     }
 
     /** A CUBE of its own for THE FIGURE, a PIECE that is OFF, one that is on, and SHOWS. */
-    private static MouldThatComesOff marked(int n, int cube) {
+    private static MouldThatComesOff marked(int n, int cube, int shows) {
         MouldThatComesOff x = sized(n);
         x.move(0, 1, 0, 0);
         x.piece(bits(cube));
@@ -260,20 +263,20 @@ final class FormEdges extends Edges {
         x.step();
         x.alter(1, bits(cube));
         x.solid(bits(cube), true);
-        x.ask(0, cube, 7);
+        x.ask(0, cube, shows);
         return x;
     }
 
-    private static void markedAt(MouldThatComesOff x, int cube) {
+    private static void markedAt(MouldThatComesOff x, int cube, int shows) {
         due("THE FIGURE", x.cubes(0), bits(cube));
         due("a PIECE that is OFF", x.setOf(0), bits(cube));
         due("a PIECE", x.setOf(1), bits(cube));
         due("OFF", x.status(3), 1);
-        due("SHOWS", x.ask(0, cube, 7), 7);
+        due("SHOWS", x.ask(0, cube, shows), shows);
         int n = x.status(0);
         int sum = 0;
         for (int c = 0; c < n * n * n; c++) sum += x.ask(0, c, 1);
-        due("SHOWS of all the others", sum, n * n * n - 1 + 7);
+        due("SHOWS of all the others", sum, n * n * n - 1 + shows);
     }
 
     private static void mirror() {
@@ -282,9 +285,13 @@ final class FormEdges extends Edges {
             for (int n = 2; n <= 4; n++) for (int axis = 0; axis < 3; axis++) for (int c = 0; c < n * n * n; c++) {
                 int[] at = {c % n, c / n % n, c / n / n};
                 at[axis] = n - 1 - at[axis];
-                MouldThatComesOff x = marked(n, c);
+                MouldThatComesOff x = marked(n, c, c % 10);
                 due("mirror", x.mirror(axis), 1);
-                markedAt(x, at[0] + n * at[1] + n * n * at[2]);
+                markedAt(x, at[0] + n * at[1] + n * n * at[2], c % 10);
+                MouldThatComesOff y = formed(n, bits(c));
+                for (int p = 0; p < 8; p++) y.piece(bits(c));
+                due("with eight PIECES", y.mirror(axis), 1);
+                for (int p = 0; p < 8; p++) due("PIECE " + p, y.setOf(p), bits(at[0] + n * at[1] + n * n * at[2]));
             }
             MouldThatComesOff x = rich();
             x.mirror(0);
@@ -298,9 +305,9 @@ final class FormEdges extends Edges {
         under("Promise 44: turn");
         edge("THE FIGURE, PIECES and SHOWS are turned by a quarter round an axis", () -> {
             for (int n = 2; n <= 4; n++) for (int axis = 0; axis < 3; axis++) {
-                MouldThatComesOff x = marked(n, 1);
+                MouldThatComesOff x = marked(n, 1, 7);
                 for (int k = 0; k < 4; k++) due("turn", x.turn(axis), 1);
-                markedAt(x, 1);
+                markedAt(x, 1, 7);
             }
             MouldThatComesOff x = rich();
             x.turn(2);
@@ -315,9 +322,13 @@ final class FormEdges extends Edges {
                 int v = at[greater[axis]];
                 at[lesser[axis]] = v;
                 at[greater[axis]] = n - 1 - u;
-                MouldThatComesOff x = marked(n, c);
+                MouldThatComesOff x = marked(n, c, c % 10);
                 due("turn", x.turn(axis), 1);
-                markedAt(x, at[0] + n * at[1] + n * n * at[2]);
+                markedAt(x, at[0] + n * at[1] + n * n * at[2], c % 10);
+                MouldThatComesOff y = formed(n, bits(c));
+                for (int p = 0; p < 8; p++) y.piece(bits(c));
+                due("with eight PIECES", y.turn(axis), 1);
+                for (int p = 0; p < 8; p++) due("PIECE " + p, y.setOf(p), bits(at[0] + n * at[1] + n * n * at[2]));
             }
         });
         edge("BAD", () -> badAxes("turn", x -> x.turn(-1), x -> x.turn(3), x -> x.turn(LEAST), x -> x.turn(MOST)));
@@ -430,7 +441,17 @@ final class FormEdges extends Edges {
             due("none is left that has some", x.casts(), 999);
             x.again();
             due("they count again", x.casts(), 5);
+            x.size(3);
+            x.solid(253440L, true);
+            due("those that are gone don't", x.casts(), 999);
+            due("eight, of which the last has some", eighthBeside().casts(), 100);
         });
+    }
+
+    private static MouldThatComesOff eighthBeside() {
+        MouldThatComesOff x = withPieces(formed(3, bits(0)), 7);
+        x.piece(bits(1));
+        return x;
     }
 
     private static void stepAndAgain() {

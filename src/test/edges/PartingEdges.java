@@ -150,6 +150,9 @@ final class PartingEdges extends Edges {
             due("itself not", x.bars(0, 2), 8);
             x.alter(1, bits(0));
             due("one in the same place", x.bars(0, 0), 12);
+            x.alter(0, bits(3));
+            due("the first PIECE, too", x.bars(0, 1), 13);
+            x.alter(0, bits(0));
             x.step();
             due("OFF: 3", x.status(3), 1);
             due("not one that is OFF", x.bars(0, 0), 4);

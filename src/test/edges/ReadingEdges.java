@@ -245,6 +245,8 @@ final class ReadingEdges extends Edges {
             faulty("box 1 1", 6);
             faulty("box 1 too 1", 6);
             faulty("box 1 t 1", 6);
+            faulty("box 1 so 1", 6);
+            faulty("box 1 tp 1", 6);
             faulty("box 1 to to", 9);
             faulty("box 1 to ;", 9);
             faulty("box to", 4);
@@ -264,7 +266,8 @@ final class ReadingEdges extends Edges {
             faulty("piece;to", 6);
             faulty("box 0 to 1 2", 11);
             faulty("size 2 to", 7);
-            for (String word : new String[] {"siz", "bo", "cu", "piec", "fil", "show", "heav", "wea", "boxx", "cutt", "showss", "heavyy", "wearr", "box\u0000"}) {
+            for (String word : new String[] {"siz", "bo", "cu", "piec", "fil", "show", "heav", "wea", "boxx", "cutt", "showss", "heavyy", "wearr",
+                "tize", "dox", "dut", "qiece", "gill", "thows", "geavy", "vear", "sizf", "boy", "cuu", "piecf", "filk", "showt", "heavz", "weas", "siye", "box\u0000"}) {
                 faulty("piece;" + word + " 99", word.endsWith("\u0000") ? 9 : 6);
             }
             due("the greatest place", readText(fresh(), "wear 7" + " ".repeat(243) + "7"), -20 - 249);

@@ -198,6 +198,7 @@ final class ShelfEdges extends Edges {
             x.row(1, 2, 4);
             due("of the longer ROW that was there", x.element(1, 4), 0);
             due("of a ROW without elements", rowOf(0).element(6, 0), 0);
+            for (int i : new int[] {-1, 40, 41, LEAST, MOST}) due("i " + i + " of the longest ROW", rowOf(40).element(6, i), 0);
         });
         edge("no ROW", () -> {
             due("a MOVE", rich().element(4, 0), 0);

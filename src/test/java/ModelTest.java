@@ -8,7 +8,7 @@ public final class ModelTest {
     private static long calls = 0;
 
     public static void main(String[] args) {
-        int runs = args.length > 0 ? Integer.parseInt(args[0]) : 3000;
+        int runs = args.length > 0 ? Integer.parseInt(args[0]) : 4000;
         for (int run = 0; run < runs && wrong < 20; run++) {
             seed = 0x9E3779B97F4A7C15L * (run + 1);
             oneRun(run);
@@ -23,7 +23,8 @@ public final class ModelTest {
         int length = 40 + below(400);
         int style = below(4);
         List<String> log = new ArrayList<>();
-        for (int k = 0; k < length; k++) {
+        // one turn may be some sixty calls (a text that is fed), and an object is promised for 512
+        for (int k = 0; k < length && log.size() < 440; k++) {
             if (!oneCall(x, m, style, log)) {
                 wrong++;
                 System.out.println("run " + run + ", call " + k + ": " + log.get(log.size() - 1));
